@@ -48,6 +48,7 @@ public final class GroundTest {
         Check.same("1: no wind x", show.falls(0, 0), 50);
         Check.same("1: no wind y", show.falls(0, 1), 50);
         Check.same("1: radius", show.danger(0), 1L);
+        Check.same("1: height of the burst", show.burstAt(0, 2), 150);
         MortarShow other = new MortarShow();
         Check.same("1: objects share nothing", other.cues(), 0);
     }
@@ -195,6 +196,7 @@ public final class GroundTest {
         Check.same("9: the height 250 is in the layer 1", show.inLayer(1, 1), 4);
         Check.same("9: the rest is in the layer 0", show.inLayer(1, 0), show.flight(1) - 4);
         Check.same("9: nothing above", show.inLayer(1, 2) + show.inLayer(1, 3), 0);
+        Check.same("9: the last kind", show.inLayer(3, 0), 13);
         int[][] bad = {{-1, 0}, {4, 0}, {0, -1}, {0, 4}};
         for (int[] b : bad) {
             Check.refused(Check.ARGUMENT, "9: inLayer", () -> show.inLayer(b[0], b[1]));
