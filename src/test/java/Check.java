@@ -4,6 +4,10 @@ final class Check {
         long answer();
     }
 
+    interface CallOf {
+        long answer(int argument);
+    }
+
     static final String ARGUMENT = "IllegalArgumentException";
     static final String INDEX = "IndexOutOfBoundsException";
     static final String STATE = "IllegalStateException";
@@ -35,6 +39,30 @@ final class Check {
         String got = told(made);
         if (!got.equals("throws." + name)) {
             report(call + " answered " + got + ", due is throws." + name);
+        }
+    }
+
+    /**
+     * The least and the greatest argument are taken; the next ones on either side, and the ends of int, are
+     * refused by the exception of that name.
+     */
+    static void range(String name, String call, int least, int most, CallOf made) {
+        taken(call, least, made);
+        taken(call, most, made);
+        if (least > Integer.MIN_VALUE) {
+            refused(name, call + " of " + (least - 1), () -> made.answer(least - 1));
+            refused(name, call + " of the least int", () -> made.answer(Integer.MIN_VALUE));
+        }
+        if (most < Integer.MAX_VALUE) {
+            refused(name, call + " of " + (most + 1), () -> made.answer(most + 1));
+            refused(name, call + " of the greatest int", () -> made.answer(Integer.MAX_VALUE));
+        }
+    }
+
+    private static void taken(String call, int argument, CallOf made) {
+        String got = told(() -> made.answer(argument));
+        if (got.startsWith("throws.")) {
+            report(call + " of " + argument + " answered " + got + ", due is an answer");
         }
     }
 

@@ -179,10 +179,11 @@ public final class CueTest {
         wrongWhat("17: fallsBySteps", show, 4, what -> show.fallsBySteps(0, what));
         wrongCue("17: fallsBySteps", show, cue -> show.fallsBySteps(cue, 4));
         for (int speed = 1; speed <= 200; speed++) {
+            MortarShow other = windy();
             for (int fall = 1; fall <= 100; fall += 9) {
-                show.setShell(0, speed, fall, 0);
+                other.setShell(0, speed, fall, 0);
                 for (int what = 0; what < 4; what++) {
-                    Check.same("17: as falls", show.fallsBySteps(0, what), show.falls(0, what));
+                    Check.same("17: as falls", other.fallsBySteps(0, what), other.falls(0, what));
                 }
             }
         }
