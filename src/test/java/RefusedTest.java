@@ -82,11 +82,11 @@ public final class RefusedTest {
         MortarShow show = busy();
         int[] fates = {0, 0, 0, 0, 3, 1, 2};
         for (int cue = 0; cue < fates.length; cue++) {
-            Check.same("the fate of the cue " + cue, show.becomes(cue), fates[cue]);
+            Check.same("13: the fate of the cue " + cue, show.becomes(cue), fates[cue]);
         }
-        Check.same("closed", show.closed(), 1);
-        Check.same("spares", show.spares(), 1);
-        Check.same("full", full().cues(), 40);
+        Check.same("23: closed", show.closed(), 1);
+        Check.same("28: spares", show.spares(), 1);
+        Check.same("20: full", full().cues(), 40);
     }
 
     private static void refused(String name, String call, Asked asked) {
