@@ -266,7 +266,7 @@ public final class SentenceTest {
     }
 
     /** Five cues of the lift 2 and the flight 5; the channel 0 of the box 0 alone is sound. */
-    private static MortarShow allFates() {
+    static MortarShow allFates() {
         MortarShow show = new MortarShow();
         show.setShell(0, 20, 10, 1);
         show.setTempo(10);

@@ -9,7 +9,7 @@ final class Snapshot {
         this.show = show;
     }
 
-    /** Some 440 calls: all of a show with at most nine cues. */
+    /** Some 380 calls: all of a show with at most nine cues. */
     static String of(MortarShow show) {
         Snapshot told = new Snapshot(show);
         told.ask();
@@ -21,7 +21,7 @@ final class Snapshot {
         return told.text.toString();
     }
 
-    /** Some 410 calls: of all forty cues of a show, less of each. */
+    /** Some 330 calls: of all forty cues of a show, less of each. */
     static String ofFull(MortarShow show) {
         Snapshot told = new Snapshot(show);
         told.ask();
