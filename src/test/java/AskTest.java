@@ -2,6 +2,7 @@
 public final class AskTest {
     private static final int CUES = 5;
     private static final String BEFORE = Snapshot.of(SentenceTest.allFates());
+    private static final String SETTINGS = Snapshot.ofSettings(SentenceTest.allFates());
 
     private interface Asked {
         long answer(MortarShow show, int argument);
@@ -18,15 +19,20 @@ public final class AskTest {
         Check.end("AskTest");
     }
 
-    /** Asks with the arguments from 0 up, each of them twice, and then tells all of the show. */
     private static void asks(String call, int arguments, Asked asked) {
+        Check.same(call + ", all of the show behind it,", Snapshot.of(asked(call, arguments, asked)), BEFORE);
+        Check.same(call + ", what was set,", Snapshot.ofSettings(asked(call, arguments, asked)), SETTINGS);
+    }
+
+    /** A show that was asked with the arguments from 0 up, each of them twice. */
+    private static MortarShow asked(String call, int arguments, Asked asked) {
         MortarShow show = SentenceTest.allFates();
         for (int argument = 0; argument < arguments; argument++) {
             int at = argument;
             String first = Check.told(() -> asked.answer(show, at));
             Check.same(call + " of " + at + ", asked again,", Check.told(() -> asked.answer(show, at)), first);
         }
-        Check.same(call + ", all of the show behind it,", Snapshot.of(show), BEFORE);
+        return show;
     }
 
     private static void ofTheGround() {

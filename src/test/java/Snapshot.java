@@ -31,6 +31,14 @@ final class Snapshot {
         return told.text.toString();
     }
 
+    /** Some 190 calls: what was set, told by other calls than those that only ask, as far as there are such. */
+    static String ofSettings(MortarShow show) {
+        Snapshot told = new Snapshot(show);
+        told.overwrite();
+        told.askWinds();
+        return told.text.toString();
+    }
+
     private void add(String call, Check.Call made) {
         text.append(call).append(' ').append(Check.told(made)).append('\n');
     }
@@ -73,6 +81,13 @@ final class Snapshot {
             add("fallsBySteps", () -> show.fallsBySteps(cue, w));
             add("burstAt", () -> show.burstAt(cue, w));
         }
+    }
+
+    /** A shell of the cue 0 that passes all layers tells their winds. */
+    private void askWinds() {
+        add("setShell", () -> show.setShell(0, 200, 1, 0));
+        add("falls", () -> show.falls(0, 0));
+        add("falls", () -> show.falls(0, 1));
     }
 
     /** What was set is told by setting something else. */
